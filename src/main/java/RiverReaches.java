@@ -618,7 +618,7 @@ public final class RiverReaches {
             if (!within(surface, 1, 50) || !within(percentage, 5, 60) || !within(capacity, 1, 500)) {
                 return OUT_OF_RANGE;
             }
-            if (reachCount >= MOST_REACHES) {
+            if (!within(reachCount, 0, MOST_REACHES - 1)) {
                 return -LIMIT_REACHED;
             }
             reaches[reachCount].begin(surface, percentage, capacity);
@@ -716,7 +716,7 @@ public final class RiverReaches {
             if (first < hour) {
                 return -HOUR_PASSED;
             }
-            if (pulseCount >= MOST_PULSES) {
+            if (!within(pulseCount, 0, MOST_PULSES - 1)) {
                 return -LIMIT_REACHED;
             }
             pulses[pulseCount].begin(first, hours, rate);
@@ -880,8 +880,12 @@ public final class RiverReaches {
             }
         }
 
+        private River nextRow() {
+            return rows[within(next, 0, ROWS - 1) ? next : 0];
+        }
+
         void note(River river) {
-            rows[next].copyFrom(river);
+            nextRow().copyFrom(river);
         }
 
         void confirm() {
@@ -890,13 +894,13 @@ public final class RiverReaches {
         }
 
         void putBack(River river) {
-            river.copyFrom(rows[next]);
+            river.copyFrom(nextRow());
         }
 
         void takeBack(River river) {
             next = (next + ROWS - 1) % ROWS;
             count--;
-            river.copyFrom(rows[next]);
+            river.copyFrom(nextRow());
         }
 
         void forgetAll() {
@@ -974,7 +978,7 @@ public final class RiverReaches {
         }
 
         boolean isFull() {
-            return length >= MOST_SIGNS;
+            return !within(length, 0, MOST_SIGNS - 1);
         }
 
         int append(char sign) {
