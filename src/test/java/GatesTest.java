@@ -171,6 +171,10 @@ public final class GatesTest {
             CHECK.due("reachByLevel(" + rank + ")", river.reachByLevel(rank), ranks[rank]);
         }
         CHECK.noSuchElement("reachByLevel(5)", () -> river.reachByLevel(5));
+        river.removeLastReach();
+        CHECK.due("reachByLevel(0) without the highest reach", river.reachByLevel(0), 2);
+        CHECK.due("reachByLevel(3) without the highest reach", river.reachByLevel(3), 1);
+        CHECK.noSuchElement("reachByLevel(4) without it", () -> river.reachByLevel(4));
         CHECK.noSuchElement("reachByLevel(-1)", () -> river.reachByLevel(-1));
         CHECK.noSuchElement("reachByLevel(least int)", () -> river.reachByLevel(Integer.MIN_VALUE));
     }

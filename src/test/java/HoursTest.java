@@ -16,6 +16,7 @@ public final class HoursTest {
         hoursUntilFlood();
         hoursUntilFloodAtTheLimit();
         volumeAfter();
+        volumeAfterOfOneReach();
         forecastsWithoutReaches();
         forecastsChangeNothing();
         totals();
@@ -270,6 +271,22 @@ public final class HoursTest {
         CHECK.illegal("volumeAfterByBalance(49)", () -> river.volumeAfterByBalance(49));
     }
 
+    private static void volumeAfterOfOneReach() {
+        RiverReaches river = new RiverReaches();
+        river.addReach(10, 50, 40);
+        river.setLateral(0, 3);
+        river.fill(0, 100);
+        CHECK.due("pass(1)", river.pass(1), 40);
+        river.addPulse(2, 2, 20);
+        CHECK.due("volumeAfter(0)", river.volumeAfter(0), 63);
+        CHECK.due("volumeAfterByBalance(0)", river.volumeAfterByBalance(0), 63);
+        CHECK.due("volumeAfter(1)", river.volumeAfter(1), 63 - 31 + 3);
+        CHECK.due("volumeAfterByBalance(1)", river.volumeAfterByBalance(1), 63 - 31 + 3);
+        CHECK.due("volumeAfter(2)", river.volumeAfter(2), 35 - 17 + 23);
+        CHECK.due("volumeAfterByBalance(2)", river.volumeAfterByBalance(2), 35 - 17 + 23);
+        CHECK.due("levelAfter(0, 2)", river.levelAfter(0, 2), 4);
+    }
+
     private static void forecastsWithoutReaches() {
         RiverReaches river = new RiverReaches();
         river.addPulse(0, 24, 200);
@@ -336,5 +353,10 @@ public final class HoursTest {
         CHECK.due("floodedShare()", river.floodedShare(), 2f / 3f);
         river.fill(2, 300);
         CHECK.due("floodedShare() of all", river.floodedShare(), 1);
+        river.removeLastReach();
+        river.removeLastReach();
+        CHECK.due("meanLevel() without the removed reaches", river.meanLevel(), 40);
+        CHECK.due("floodedShare() without the removed reaches", river.floodedShare(), 1);
+        CHECK.due("totalVolume() without the removed reaches", river.totalVolume(), 409);
     }
 }

@@ -6,6 +6,7 @@ public final class UndoTest {
         denials();
         denialIsKept();
         undoOfEachChange();
+        undoOfAWarningLevel();
         undoOfEightChanges();
         undoOfATextIsOne();
         undoAfterUndo();
@@ -57,35 +58,50 @@ public final class UndoTest {
         CHECK.due("denialCauseDetail()", river.denialCauseDetail(), 100);
     }
 
-    private static void undone(String change, RiverReaches river, String before) {
-        CHECK.due(change + " counts", river.undoCount(), 6);
-        CHECK.due(change + ": undo()", river.undo(), 5);
-        CHECK.due(change + " undone", Check.state(river), before);
+    private interface Change {
+        void make(RiverReaches river);
+    }
+
+    /** A change of its own stands between two undos, so that each one has another state to come back to. */
+    private static void undone(String name, RiverReaches river, Change change) {
+        river.fill(0, 3);
+        String before = Check.state(river);
+        int count = river.undoCount();
+        change.make(river);
+        CHECK.due(name + " changes", Check.state(river).equals(before), false);
+        CHECK.due(name + " counts", river.undoCount(), Math.min(8, count + 1));
+        CHECK.due(name + ": undo()", river.undo(), Math.min(7, count));
+        CHECK.due(name + " undone", Check.state(river), before.replace(" " + count + " pulses",
+                " " + Math.min(7, count) + " pulses"));
     }
 
     private static void undoOfEachChange() {
         RiverReaches river = busy();
-        String before = Check.state(river);
-        river.addReach(1, 5, 1);
-        undone("addReach", river, before);
-        river.removeLastReach();
-        undone("removeLastReach", river, before);
-        river.setLateral(0, 8);
-        undone("setLateral", river, before);
-        river.fill(1, 9);
-        undone("fill", river, before);
-        river.setStages(0, 2, 3);
-        undone("setStages", river, before);
-        river.setGate(0, 3);
-        undone("setGate", river, before);
-        river.setRule(1, 'r');
-        undone("setRule", river, before);
-        river.addPulse(0, 1, 1);
-        undone("addPulse", river, before);
-        river.pass(48);
-        undone("pass", river, before);
-        Check.run(river, "cut;cut;pulse 3 1 1;reach 1 5 1;pass 9");
-        undone("execute", river, before);
+        undone("addReach", river, r -> r.addReach(1, 5, 1));
+        undone("removeLastReach", river, RiverReaches::removeLastReach);
+        undone("setLateral", river, r -> r.setLateral(0, 8));
+        undone("fill", river, r -> r.fill(1, 9));
+        undone("setStages", river, r -> r.setStages(0, 100, 200));
+        undone("setGate", river, r -> r.setGate(0, 3));
+        undone("setRule", river, r -> r.setRule(1, 'r'));
+        undone("addPulse", river, r -> r.addPulse(0, 1, 1));
+        undone("pass", river, r -> r.pass(48));
+        undone("execute", river, r -> Check.run(r, "cut;cut;pulse 3 1 1;reach 1 5 1;pass 9"));
+    }
+
+    private static void undoOfAWarningLevel() {
+        RiverReaches river = new RiverReaches();
+        river.addReach(10, 20, 30);
+        river.fill(0, 250);
+        CHECK.due("setStages(0, 26, 40)", river.setStages(0, 26, 40), 0);
+        river.undo();
+        CHECK.due("status(0) of the warning level before", river.status(0), 1);
+        river.saveSnapshot();
+        river.setStages(0, 26, 40);
+        river.restoreSnapshot();
+        CHECK.due("status(0) of the warning level saved", river.status(0), 1);
+        CHECK.due("levelAfter(0, 1)", river.levelAfter(0, 1), 22);
+        CHECK.due("roomBelowFlood(0)", river.roomBelowFlood(0), 149);
     }
 
     private static void undoOfEightChanges() {
