@@ -1,8 +1,16 @@
+import java.util.function.IntFunction;
+import java.util.function.Supplier;
+
 /** What the tests share: it counts the answers that are not due and prints them. */
 final class Check {
     /** A call whose answer is looked at; a boolean counts 1 or 0. */
     interface Call {
         double answer();
+    }
+
+    /** A call with a number that is tried at the ends of its range and beyond them. */
+    interface NumberCall {
+        double answer(RiverReaches river, int number);
     }
 
     private final String name;
@@ -89,6 +97,74 @@ final class Check {
         due("\"" + text + "\": faultPosition()", river.faultPosition(), position);
     }
 
+    /** The call does not throw. */
+    void accepted(String call, Call made) {
+        checks++;
+        try {
+            made.answer();
+        } catch (RuntimeException e) {
+            wrong++;
+            System.out.println(name + ": " + call + " answered " + e.getClass().getSimpleName());
+        }
+    }
+
+    /** Both ends of the range are accepted and all beyond them is illegal, each on a river of its own. */
+    void range(String call, int least, int greatest, Supplier<RiverReaches> fresh, NumberCall made) {
+        for (int number : new int[] {least, greatest}) {
+            RiverReaches river = fresh.get();
+            accepted(call + " of " + number, () -> made.answer(river, number));
+        }
+        for (int number : new int[] {least - 1, greatest + 1, Integer.MIN_VALUE, Integer.MAX_VALUE}) {
+            RiverReaches river = fresh.get();
+            illegal(call + " of " + number, () -> made.answer(river, number));
+        }
+    }
+
+    /** The call knows the reaches that the river has, of none, of one and of as many as there may be, and no other. */
+    void reachIndexes(String call, IntFunction<RiverReaches> riverOf, NumberCall made) {
+        for (int count : new int[] {0, 1, 8}) {
+            for (int index : new int[] {0, count - 1}) {
+                RiverReaches river = riverOf.apply(count);
+                if (index >= 0 && index < count) {
+                    accepted(call + " of reach " + index + " of " + count, () -> made.answer(river, index));
+                }
+            }
+            for (int index : new int[] {-1, count, 8, Integer.MIN_VALUE, Integer.MAX_VALUE}) {
+                RiverReaches river = riverOf.apply(count);
+                outOfBounds(call + " of reach " + index + " of " + count, () -> made.answer(river, index));
+            }
+        }
+    }
+
+    /** A river with so many reaches, all of them alike. */
+    static RiverReaches row(int count) {
+        RiverReaches river = new RiverReaches();
+        for (int i = 0; i < count; i++) {
+            river.addReach(10, 20, 30);
+        }
+        return river;
+    }
+
+    /** A river with one reach that has this surface and this volume. */
+    static RiverReaches filled(int surface, int volume) {
+        RiverReaches river = new RiverReaches();
+        river.addReach(surface, 20, 30);
+        pour(river, 0, volume);
+        return river;
+    }
+
+    static void pour(RiverReaches river, int reach, int volume) {
+        for (int left = volume; left > 0; left -= 999) {
+            river.fill(reach, Math.min(left, 999));
+        }
+    }
+
+    static void passAll(RiverReaches river, int hours) {
+        for (int left = hours; left > 0; left -= 48) {
+            river.pass(Math.min(left, 48));
+        }
+    }
+
     static int run(RiverReaches river, String text) {
         feed(river, text);
         return river.execute();
@@ -114,7 +190,8 @@ final class Check {
         all.append(river.hour()).append(' ').append(river.pulseCount()).append(' ');
         all.append(river.totalIn()).append(' ').append(river.totalOut()).append(' ');
         all.append(river.alarms()).append(' ').append(river.undoCount()).append(" pulses");
-        for (int hour = river.hour(); hour < river.hour() + 60; hour++) {
+        int now = river.hour();
+        for (int hour = now; hour < now + 60; hour++) {
             all.append(' ').append(river.headInflow(hour));
         }
         all.append(' ').append(river.pendingInflow());
