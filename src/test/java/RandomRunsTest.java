@@ -22,6 +22,7 @@ public final class RandomRunsTest {
     private final Model model = new Model();
     private final List<String> calls = new ArrayList<>();
     private int[] weights;
+    private boolean isWordy;
     private String planned = "";
     private final ArrayDeque<String> next = new ArrayDeque<>();
 
@@ -47,7 +48,22 @@ public final class RandomRunsTest {
         if (args.length > 0) {
             REACHED.forEach((what, count) -> System.out.println(what + ": " + count));
         }
+        METHODS.forEach(RandomRunsTest::requireReached);
         System.out.println("RandomRunsTest: " + RUNS + " runs of " + CALLS + " calls, 0 wrong");
+    }
+
+    /** A run that never comes to an answer or to an exception would prove nothing about it. */
+    private static void requireReached(Method method) {
+        List<String> ends = new ArrayList<>(List.of(" answered"));
+        for (Class<?> exception : method.getExceptionTypes()) {
+            ends.add(" throws " + exception.getSimpleName());
+        }
+        for (String end : ends) {
+            if (REACHED.getOrDefault(method.getName() + end, 0) < 100) {
+                System.out.println("RandomRunsTest: hardly ever " + method.getName() + end);
+                System.exit(1);
+            }
+        }
     }
 
     private boolean isAsDue() throws Exception {
@@ -77,9 +93,10 @@ public final class RandomRunsTest {
         }
     }
 
-    /** Each run has its own mixture: some remove much, some pass many hours, some undo often. */
+    /** Each run has its own mixture: some remove much, some pass many hours, some undo often, some run many texts. */
     private void chooseWeights() {
         weights = new int[METHODS.size()];
+        isWordy = random.nextInt(3) == 0;
         for (int i = 0; i < weights.length; i++) {
             String name = METHODS.get(i).getName();
             weights[i] = 1 + random.nextInt(6);
@@ -99,7 +116,7 @@ public final class RandomRunsTest {
                 weights[i] = random.nextInt(2);
             }
             if (name.equals("feed")) {
-                weights[i] = random.nextInt(4);
+                weights[i] = isWordy ? 20 : random.nextInt(4);
             }
         }
     }
@@ -118,9 +135,9 @@ public final class RandomRunsTest {
             i++;
         }
         Method method = METHODS.get(i);
-        if (method.getName().equals("feed") && random.nextInt(10) > 0) {
+        if (method.getName().equals("feed") && random.nextInt(isWordy ? 40 : 10) > 0) {
             planned = text();
-            if (random.nextInt(5) > 0) {
+            if (isWordy || random.nextInt(5) > 0) {
                 next.addAll(List.of("execute", "denial", "denialDetail", "denialCause", "denialCauseDetail"));
             }
         }
